@@ -23,6 +23,7 @@ public final class ProgramsTest {
         failures();
         errorPositions();
         errorPositionsOfSpoiltTexts();
+        cutTexts();
         recordsStay();
         longestPrograms();
         anyCharacter();
@@ -157,6 +158,32 @@ public final class ProgramsTest {
                 Check.due("errorPosition of " + text, x.errorPosition(), error);
             }
         }
+    }
+
+    // What the buffer held before, or would hold behind its end, must not be read.
+    private static void cutTexts() {
+        for (String command : COMMANDS) {
+            PenNursery x = new PenNursery();
+            for (int length = 0; length < command.length(); length++) {
+                String cut = command.substring(0, length);
+                Check.answer(() -> Nursery.run(x, command));
+                Nursery.type(x, cut);
+                String answer = Check.answer(x::run);
+                Check.due("run of " + cut, answer.equals(Nursery.ARGUMENT.getName()), errorOf(cut) >= 0);
+                Nursery.type(x, filled(60 - length) + cut);
+                answer = Check.answer(x::run);
+                Check.due("run of 60 and " + cut, answer.equals(Nursery.ARGUMENT.getName()), errorOf(cut) >= 0);
+                if (errorOf(cut) >= 0) {
+                    Check.due("errorPosition", x.errorPosition(), 60);
+                }
+            }
+        }
+    }
+
+    /** Commands with a semicolon behind each, of a length that sevens and eights can make. */
+    private static String filled(int length) {
+        int eights = length % 7;
+        return "order 0;".repeat(eights) + "pick 0;".repeat((length - 8 * eights) / 7);
     }
 
     /** Some commands of which one sign may be replaced, left out, put in, or all behind it cut. */
