@@ -97,16 +97,16 @@ public final class ProgramsTest {
         String[] failing = {"plant 4a@5", "plant 9a@5", "pick 4", "pick 1", "pick 0", "sharpen 2-1", "sharpen 0-0",
             "blunt 999+1", "blunt 0+000", "uproot 2", "move 2>1", "move 0>4", "move 0>0", "merge 4>0", "merge 0>4",
             "merge 2>2", "order 4", "ink a+0"};
-        PenNursery x = Nursery.planted(0, 5, 6);
-        String before = Nursery.state(x);
         for (String text : failing) {
+            PenNursery x = Nursery.planted(0, 5, 6);
+            String before = Nursery.state(x);
             Check.thrown("run of " + text, Nursery.UNSUPPORTED, () -> Nursery.run(x, text));
             Check.due("failedCommand of " + text, x.failedCommand(), 0);
             Check.thrown("run behind another", Nursery.UNSUPPORTED, () -> Nursery.run(x, "ink b+1;" + text));
             Check.due("failedCommand behind another", x.failedCommand(), 1);
             Check.due("state", Nursery.state(x), before);
+            Check.thrown("errorPosition", Nursery.ELEMENT, x::errorPosition);
         }
-        Check.thrown("errorPosition", Nursery.ELEMENT, x::errorPosition);
         PenNursery y = new PenNursery();
         for (int i = 0; i < 23; i++) {
             y.plant(0, 'a', 5);
@@ -163,20 +163,23 @@ public final class ProgramsTest {
     // What the buffer held before, or would hold behind its end, must not be read.
     private static void cutTexts() {
         for (String command : COMMANDS) {
-            PenNursery x = new PenNursery();
             for (int length = 0; length < command.length(); length++) {
-                String cut = command.substring(0, length);
-                Check.answer(() -> Nursery.run(x, command));
-                Nursery.type(x, cut);
-                String answer = Check.answer(x::run);
-                Check.due("run of " + cut, answer.equals(Nursery.ARGUMENT.getName()), errorOf(cut) >= 0);
-                Nursery.type(x, filled(60 - length) + cut);
-                answer = Check.answer(x::run);
-                Check.due("run of 60 and " + cut, answer.equals(Nursery.ARGUMENT.getName()), errorOf(cut) >= 0);
-                if (errorOf(cut) >= 0) {
-                    Check.due("errorPosition", x.errorPosition(), 60);
-                }
+                cutText(command, command.substring(0, length));
             }
+        }
+    }
+
+    private static void cutText(String command, String cut) {
+        PenNursery x = new PenNursery();
+        Check.answer(() -> Nursery.run(x, command));
+        Nursery.type(x, cut);
+        String answer = Check.answer(x::run);
+        Check.due("run of " + cut, answer.equals(Nursery.ARGUMENT.getName()), errorOf(cut) >= 0);
+        Nursery.type(x, filled(60 - cut.length()) + cut);
+        answer = Check.answer(x::run);
+        Check.due("run of 60 and " + cut, answer.equals(Nursery.ARGUMENT.getName()), errorOf(cut) >= 0);
+        if (errorOf(cut) >= 0) {
+            Check.due("errorPosition", x.errorPosition(), 60);
         }
     }
 

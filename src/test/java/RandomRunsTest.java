@@ -1,26 +1,36 @@
 import java.util.ArrayList;
 import java.util.List;
+import java.util.NoSuchElementException;
 import java.util.function.IntFunction;
 
 /** Long runs of mixed calls, with good and bad arguments, compared with the model. */
 public final class RandomRunsTest {
-    private static final int RUNS = 1000;
-    private static final int CALLS = 400;
+    private static final int RUNS = 6000;
+    // Nothing is promised of an object behind these calls.
+    private static final int CALLS = 512;
+    // What a change with the looks behind it, a line, and the last look at all may need at most.
+    private static final int CALLS_OF_A_STEP = 61 + 12;
+    private static final int CALLS_OF_A_LINE = 24 * 8;
+    private static final int CALLS_OF_THE_END = 6 + 4 + 24 * 3 + 8;
 
     private final Dice dice;
     private final int run;
     // How many of the nests and feathers this run uses, so that nests also get full.
     private final int nests;
     private final int feathers;
+    // How many of four programs it runs: without the calls that type them it is longer.
+    private final int programs;
     private final PenNursery nursery = new PenNursery();
     private final Model model = new Model();
     private int failed = -1;
+    private int calls = 0;
 
     private RandomRunsTest(int run) {
         this.run = run;
         dice = new Dice(run);
         nests = 1 + dice.below(4);
         feathers = 1 + dice.below(8);
+        programs = dice.below(4);
     }
 
     public static void main(String[] args) {
@@ -31,11 +41,28 @@ public final class RandomRunsTest {
     }
 
     private void go() {
-        for (int call = 0; call < CALLS; call++) {
-            String what = "run " + run + ", call " + call + ": ";
-            change(what);
-            compare(what);
+        for (int i = dice.below(25); i > 0; i--) {
+            plant("run " + run + ", at the beginning: plant", dice.below(nests));
         }
+        for (int step = 0; fits(CALLS_OF_A_STEP); step++) {
+            String what = "run " + run + ", step " + step + ": ";
+            change(what);
+            same(what + "exchanges", nursery::exchanges, () -> model.world.exchanges);
+            if (dice.below(8) == 0) {
+                compareSome(what);
+            }
+        }
+        compareAll("run " + run + ", at the end: ");
+    }
+
+    private void plant(String what, int nest) {
+        char feather = (char) ('a' + dice.below(feathers));
+        int date = dice.below(dice.below(2) == 0 ? 30 : 1000);
+        same(what, () -> nursery.plant(nest, feather, date), () -> model.plant(nest, feather, date));
+    }
+
+    private boolean fits(int more) {
+        return calls + more + CALLS_OF_THE_END <= CALLS;
     }
 
     private void change(String what) {
@@ -70,7 +97,10 @@ public final class RandomRunsTest {
                 break;
             case 13: same(what + "undo", () -> nursery.undo(), () -> model.undo());
                 break;
-            default: runProgram(what);
+            default:
+                if (dice.below(4) < programs) {
+                    runProgram(what);
+                }
                 break;
         }
     }
@@ -102,6 +132,7 @@ public final class RandomRunsTest {
         }
         Nursery.type(nursery, text.toString());
         String answer = Check.answer(nursery::run);
+        calls += text.length() + 1;
         int failure = model.run(commands);
         if (failure >= 0) {
             failed = failure;
@@ -144,31 +175,68 @@ public final class RandomRunsTest {
         }
     }
 
-    private void compare(String what) {
-        for (int i = 0; i < 4; i++) {
-            int nest = i;
-            Check.due(what + "nest " + nest, Nursery.nest(nursery, nest), model.nestLine(nest));
-            Check.due(what + "levels", nursery.levels(nest), model.levels(nest));
-            Check.due(what + "size", nursery.size(nest), model.nest(nest).size());
+    private void compareSome(String what) {
+        switch (dice.below(5)) {
+            case 0: compareLine(what, dice.below(4));
+                break;
+            case 1: comparePens(what);
+                break;
+            case 2:
+            case 3: compareNests(what);
+                break;
+            default: compareStatistics(what);
+                break;
         }
-        Check.due(what + "ink", Nursery.ink(nursery), model.inkLine());
-        Check.due(what + "pens", nursery.pens(), model.world.pens());
-        Check.due(what + "picked", nursery.picked(), model.world.picked);
-        Check.due(what + "exchanges", nursery.exchanges(), model.world.exchanges);
+    }
+
+    private void compareLine(String what, int nest) {
+        if (!fits(CALLS_OF_A_LINE)) {
+            return;
+        }
+        if (dice.below(2) == 0) {
+            sameLine(what + "nest " + nest, Nursery.nest(nursery, nest), model.nestLine(nest));
+        } else {
+            sameLine(what + "ink", Nursery.ink(nursery), model.inkLine());
+        }
+    }
+
+    private void compareStatistics(String what) {
+        same(what + "pens", nursery::pens, () -> model.world.pens());
+        same(what + "picked", nursery::picked, () -> model.world.picked);
         same(what + "commonFeather", nursery::commonFeather, model::commonFeather);
         same(what + "meanDate", nursery::meanDate, model::meanDate);
         same(what + "pickedShare", nursery::pickedShare, model::pickedShare);
-        Check.due(what + "failedCommand", Check.answer(nursery::failedCommand),
-                failed < 0 ? "java.util.NoSuchElementException" : String.valueOf(failed));
-        if (dice.below(8) == 0) {
-            comparePens(what);
-            compareNests(what);
+        same(what + "failedCommand", nursery::failedCommand, () -> {
+            if (failed < 0) {
+                throw new NoSuchElementException();
+            }
+            return failed;
+        });
+    }
+
+    private void compareAll(String what) {
+        compareStatistics(what);
+        for (int i = 0; i < 4; i++) {
+            int nest = i;
+            List<Model.Pen> pens = model.nest(nest);
+            same(what + "size of " + nest, () -> nursery.size(nest), pens::size);
+            for (int k = 0; k < pens.size(); k++) {
+                int index = k;
+                Model.Pen pen = pens.get(index);
+                same(what + "penAt " + nest + " " + index, () -> nursery.penAt(nest, index), () -> pen.number);
+                same(what + "feather", () -> nursery.feather(pen.number), () -> pen.feather);
+                same(what + "date", () -> nursery.date(pen.number), () -> pen.date);
+            }
+        }
+        for (char letter = 'a'; letter <= 'h'; letter++) {
+            char feather = letter;
+            same(what + "ink " + feather, () -> nursery.ink(feather), () -> model.ink(feather));
         }
     }
 
     private void comparePens(String what) {
         int pen = pen();
-        Check.due(what + "exists", nursery.exists(pen), !Check.answer(() -> model.pen(pen)).startsWith("java"));
+        same(what + "exists", () -> nursery.exists(pen), () -> !Check.answer(() -> model.pen(pen)).startsWith("java"));
         same(what + "feather", () -> nursery.feather(pen), () -> model.pen(pen).feather);
         same(what + "date", () -> nursery.date(pen), () -> model.pen(pen).date);
         same(what + "nestOf", () -> nursery.nestOf(pen), () -> model.nestOf(pen));
@@ -190,11 +258,20 @@ public final class RandomRunsTest {
         same(what + "looksBefore", () -> nursery.looksBefore(nest, date), () -> model.looksBefore(nest, date));
         same(what + "pensWith", () -> nursery.pensWith(feather), () -> model.pensWith(feather));
         same(what + "ink", () -> nursery.ink(feather), () -> model.ink(feather));
-        Check.due(what + "isConsistent", nursery.isConsistent(), true);
+        same(what + "size", () -> nursery.size(nest), () -> model.nest(nest).size());
+        same(what + "levels", () -> nursery.levels(nest), () -> model.levels(nest));
+        same(what + "isConsistent", nursery::isConsistent, () -> true);
     }
 
-    private static void same(String what, Check.Call call, Check.Call wanted) {
+    private void same(String what, Check.Call call, Check.Call wanted) {
+        calls++;
         Check.due(what, Check.answer(call), Check.answer(wanted));
+    }
+
+    /** The line was written by one call, and read by one for each character. */
+    private void sameLine(String what, String line, String wanted) {
+        calls += 1 + line.length();
+        Check.due(what, line, wanted);
     }
 
     private int nest() {

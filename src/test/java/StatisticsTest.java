@@ -1,11 +1,9 @@
-import java.lang.reflect.Field;
-
 /** Promises 29 to 36: feathers, ink and statistics. */
 public final class StatisticsTest {
     private StatisticsTest() {
     }
 
-    public static void main(String[] args) throws ReflectiveOperationException {
+    public static void main(String[] args) {
         feathers();
         commonFeathers();
         pickedPens();
@@ -128,7 +126,7 @@ public final class StatisticsTest {
         Check.thrown("pickedShare after undo", Nursery.ARITHMETIC, x::pickedShare);
     }
 
-    private static void consistency() throws ReflectiveOperationException {
+    private static void consistency() {
         PenNursery x = new PenNursery();
         Check.due("isConsistent of a new object", x.isConsistent(), true);
         for (int i = 0; i < 24; i++) {
@@ -137,26 +135,5 @@ public final class StatisticsTest {
         String before = Nursery.state(x);
         Check.due("isConsistent", x.isConsistent(), true);
         Check.due("nothing changed", Nursery.state(x), before);
-        // Only from inside can a nest be spoilt.
-        for (int nest = 0; nest < 3; nest++) {
-            int[] dates = datesInside(x, nest);
-            int kept = dates[0];
-            dates[0] = 999;
-            Check.due("isConsistent of a spoilt nest", x.isConsistent(), false);
-            dates[0] = kept;
-            Check.due("isConsistent", x.isConsistent(), true);
-        }
-    }
-
-    private static int[] datesInside(PenNursery nursery, int nest) throws ReflectiveOperationException {
-        Object state = inside(nursery, "now");
-        Object heap = ((Object[]) inside(state, "nests"))[nest];
-        return (int[]) inside(heap, "dates");
-    }
-
-    private static Object inside(Object owner, String name) throws ReflectiveOperationException {
-        Field field = owner.getClass().getDeclaredField(name);
-        field.setAccessible(true);
-        return field.get(owner);
     }
 }

@@ -66,17 +66,17 @@ public final class UndoTest {
 
     private static void eightLatest() {
         PenNursery x = new PenNursery();
-        String[] states = new String[31];
-        for (int i = 0; i < 31; i++) {
+        String[] states = new String[19];
+        for (int i = 0; i < 19; i++) {
             states[i] = Nursery.state(x);
             x.addInk('a', i + 1);
         }
         for (int i = 7; i >= 0; i--) {
             Check.due("undo", x.undo(), i);
-            Check.due("state", Nursery.state(x), states[23 + i]);
+            Check.due("state", Nursery.state(x), states[11 + i]);
         }
         Check.thrown("undo of the ninth", Nursery.STATE, x::undo);
-        Check.due("nothing changed", Nursery.state(x), states[23]);
+        Check.due("nothing changed", Nursery.state(x), states[11]);
     }
 
     private static void undoneAndNewChanges() {
@@ -106,7 +106,7 @@ public final class UndoTest {
         for (int i = 1; i <= 12; i++) {
             x.addInk('a', 1);
         }
-        for (int i = 0; i < 20; i++) {
+        for (int i = 0; i < 10; i++) {
             Check.thrown("pick", Nursery.ELEMENT, () -> x.pick(0));
             Check.thrown("run", Nursery.UNSUPPORTED, () -> Nursery.run(x, "ink a+9;pick 0"));
             Check.thrown("run", Nursery.ARGUMENT, () -> Nursery.run(x, "ink a+9;pick"));
