@@ -53,6 +53,10 @@ final class Edge {
         sentence = "Terms, \"" + words + "\": ";
     }
 
+    static void whatItIs(String words) {
+        sentence = "What it is, \"" + words + "\": ";
+    }
+
     static void due(String what, Object got, Object want) {
         Check.due(sentence + what, got, want);
     }

@@ -16,6 +16,9 @@ public final class EdgesProgramsTest {
     /** A program of 60 characters: five commands, of which the last one needs the first one. */
     private static final String LONGEST = "plant 0a@001;plant 1b@002;plant 2c@003;plant 3d@004;move 0>1";
 
+    /** Commands that all succeed in this order in quiet(). */
+    private static final String[] GOOD = {"ink a+1", "order 0", "plant 0a@1", "pick 1", "merge 0>3"};
+
     private EdgesProgramsTest() {
     }
 
@@ -38,9 +41,11 @@ public final class EdgesProgramsTest {
         runOfNothing();
         runReturns();
         runOfFullBuffers();
-        allOrNone();
+        noneOfThem();
+        allOfThem();
         laterCommandsSeeEarlierOnes();
         theBufferIsEmptyAfterwards();
+        theOldTextIsNotRead();
         noProgramIsNotExecuted();
         noErrorPosition();
         errorPositionsFromEndToEnd();
@@ -134,7 +139,8 @@ public final class EdgesProgramsTest {
         for (int i = 0; i < before.length; i++) {
             int start = before[i].length();
             errorEverywhere(before[i] + after[i], start);
-            for (String number : new String[] {"-", "+", "-1", "+1", " 1", "a", "/", ":", ";", ".", "\u0660", "\uff10"}) {
+            for (String number : new String[] {"-", "+", "-1", "+1", " 1", "a", "/", ":", ";", ".", "\u0660",
+                "\uff10"}) {
                 errorEverywhere(before[i] + number + after[i], start);
             }
             for (String number : new String[] {"1a", "1/", "1:", "1 ", "1.", "1\u0660", "1\uff10"}) {
@@ -320,7 +326,8 @@ public final class EdgesProgramsTest {
     // ---- promise 41
 
     private static void runOfNothing() {
-        Edge.promise(41, "Throws `IllegalArgumentException` if the text is not a program; its error position is recorded");
+        Edge.promise(41, "Throws `IllegalArgumentException` if the text is not a program;"
+                + " its error position is recorded");
         PenNursery x = new PenNursery();
         Edge.thrown("an empty buffer", Nursery.ARGUMENT, x::run);
         Edge.due("errorPosition", x.errorPosition(), 0);
@@ -361,22 +368,25 @@ public final class EdgesProgramsTest {
         Edge.refusedRun(LONGEST.substring(0, 58) + ">4", Nursery.UNSUPPORTED, Edge::quiet);
     }
 
-    private static void allOrNone() {
-        Edge.promise(41, "either all of them or, if one of them fails, none");
-        String[] good = {"ink a+1", "order 0", "plant 0a@1", "pick 1", "merge 0>3"};
-        for (int failing = 0; failing <= good.length; failing++) {
+    private static void noneOfThem() {
+        Edge.promise(41, "the number of this command, counted from 0, is recorded");
+        for (int failing = 0; failing <= GOOD.length; failing++) {
             StringBuilder text = new StringBuilder();
-            for (int i = 0; i <= good.length; i++) {
+            for (int i = 0; i <= GOOD.length; i++) {
                 text.append(i == 0 ? "" : ";");
-                text.append(i == failing ? "pick 9" : good[i < failing ? i : i - 1]);
+                text.append(i == failing ? "pick 9" : GOOD[i < failing ? i : i - 1]);
             }
             PenNursery x = Edge.quiet();
             Edge.thrown("run of " + text, Nursery.UNSUPPORTED, () -> Nursery.run(x, text.toString()));
             Edge.due("failedCommand of " + text, x.failedCommand(), failing);
             Edge.refusedRun(text.toString(), Nursery.UNSUPPORTED, Edge::quiet);
         }
+    }
+
+    private static void allOfThem() {
+        Edge.promise(41, "either all of them or, if one of them fails, none");
         PenNursery y = Edge.quiet();
-        Edge.due("all of them", Nursery.run(y, String.join(";", good)), 5);
+        Edge.due("all of them", Nursery.run(y, String.join(";", GOOD)), 5);
         Edge.due("nest 3", y.size(3), 4);
         Edge.due("are one change", y.undo(), 7);
         Edge.due("state", Nursery.state(y), Nursery.state(Edge.quiet()));
@@ -405,16 +415,27 @@ public final class EdgesProgramsTest {
             Edge.due("run after " + text, x.run(), 1);
             Edge.due("type after that", x.type('o'), 1);
         }
-        PenNursery y = Edge.withText("pick 0;pick 0");
-        Check.answer(y::run);
-        Edge.thrown("a text that the old one would complete", Nursery.ARGUMENT, () -> Nursery.run(y, "order "));
-        Edge.due("errorPosition", y.errorPosition(), 6);
+    }
+
+    private static void theOldTextIsNotRead() {
+        Edge.promise(41, "The buffer is empty afterwards in every case.");
+        for (String command : SHORTEST) {
+            for (int length = 0; length < command.length(); length++) {
+                String beginning = command.substring(0, length);
+                PenNursery x = new PenNursery();
+                Check.answer(() -> Nursery.run(x, command + ";" + command));
+                Edge.thrown("what the old text would complete: " + beginning, Nursery.ARGUMENT,
+                        () -> Nursery.run(x, beginning));
+                Edge.due("errorPosition of " + beginning, x.errorPosition(), length);
+            }
+        }
     }
 
     private static void noProgramIsNotExecuted() {
-        Edge.promise(41, "Throws `IllegalArgumentException` if the text is not a program; its error position is recorded");
-        for (String text : new String[] {"ink a+5;x", "ink a+5;", "plant 0a@1;uproot 1;pick", "recall a;;", "ink a+1000",
-            "plant 0a@1000", "order 10", "pick 0;plant 0i@1", "pick 0 "}) {
+        Edge.promise(41, "Throws `IllegalArgumentException` if the text is not a program;"
+                + " its error position is recorded");
+        for (String text : new String[] {"ink a+5;x", "ink a+5;", "plant 0a@1;uproot 1;pick", "recall a;;",
+            "ink a+1000", "plant 0a@1000", "order 10", "pick 0;plant 0i@1", "pick 0 "}) {
             Edge.refusedRun(text, Nursery.ARGUMENT, Edge::quiet);
             PenNursery x = Edge.quiet();
             Check.answer(() -> Nursery.run(x, text));

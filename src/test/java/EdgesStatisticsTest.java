@@ -210,6 +210,14 @@ public final class EdgesStatisticsTest {
         x.sharpen(23, 1);
         Edge.due("one day less", x.meanDate(), 23975.0 / 24.0);
         Edge.due("all nests", Edge.full().meanDate(), 270.0);
+        Edge.due("24 pens in one nest", Edge.fullNest(3).meanDate(), 115.0);
+        PenNursery gone = Nursery.planted(0, 1, 2, 900);
+        gone.uproot(2);
+        Edge.due("without the one that is gone", gone.meanDate(), 1.5);
+        gone.move(1, 1);
+        Edge.due("each one once, after a move", gone.meanDate(), 1.5);
+        gone.merge(0, 2);
+        Edge.due("each one once, after a merge", gone.meanDate(), 1.5);
     }
 
     private static void pickedShareWithoutPlants() {

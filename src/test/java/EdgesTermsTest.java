@@ -6,6 +6,7 @@ public final class EdgesTermsTest {
     }
 
     public static void main(String[] args) {
+        mostCalls();
         mostPens();
         roomAfterTheLimit();
         mostPensByPrograms();
@@ -25,6 +26,7 @@ public final class EdgesTermsTest {
         ordering();
         stocks();
         refusedCallsChangeNothing();
+        refusedRunsMakeARecord();
         theFirstListedException();
         theFirstListedExceptionOfRun();
         eightLatestChanges();
@@ -33,6 +35,28 @@ public final class EdgesTermsTest {
         whatIsNotInTheState();
         whatIsInTheState();
         Check.end();
+    }
+
+    private static void mostCalls() {
+        Edge.whatItIs("An object is used for at most 512 calls after it has been made");
+        PenNursery x = new PenNursery();
+        for (int call = 1; call <= 512; call++) {
+            if (call % 25 == 0) {
+                Edge.due("call " + call, x.recall('h'), 24);
+            } else {
+                Edge.due("call " + call, x.plant(3, 'h', 999 - call), call - 1 - call / 25);
+            }
+        }
+        PenNursery y = new PenNursery();
+        for (int call = 1; call < 512; call++) {
+            y.addInk('a', 1);
+        }
+        Edge.due("call 512", y.undo(), 7);
+        PenNursery z = new PenNursery();
+        for (int call = 1; call < 512; call += 8) {
+            Nursery.type(z, "order 0");
+            Edge.due("call " + (call + 7), z.run(), 1);
+        }
     }
 
     private static void mostPens() {
@@ -186,7 +210,8 @@ public final class EdgesTermsTest {
     }
 
     private static void siftingUp() {
-        Edge.terms("as long as its index is greater than 0 and it is sharper than the pen at the parent, exchange both");
+        Edge.terms("as long as its index is greater than 0 and it is sharper than the pen at the parent,"
+                + " exchange both");
         PenNursery x = Edge.fullNest(0);
         x.uproot(23);
         Edge.due("no exchange yet", x.exchanges(), 0L);
@@ -341,6 +366,26 @@ public final class EdgesTermsTest {
                 Edge.due("call " + i + " throws", Check.answer(() -> call.on(x)).contains("Exception"), true);
                 Edge.changesNothing("refused call " + i, recipe, call);
             }
+        }
+    }
+
+    private static void refusedRunsMakeARecord() {
+        Edge.terms("except that run() empties the program buffer and records a syntax error or a failed command");
+        PenNursery x = Edge.busy();
+        Edge.due("the records before", Edge.records(x), "4 1");
+        Edge.thrown("a syntax error", Nursery.ARGUMENT, () -> Nursery.run(x, "1;pick 9;x"));
+        Edge.due("the records after it", Edge.records(x), "15 1");
+        Edge.due("the buffer after it", x.type('p'), 1);
+        Edge.thrown("a failed command", Nursery.UNSUPPORTED, () -> Nursery.run(x, "ick 9;pick 0"));
+        Edge.due("the records after it", Edge.records(x), "15 0");
+        Edge.due("the buffer after it", x.type('p'), 1);
+        Edge.due("the output line after both", Edge.line(x), "2a10 1a20 3c15.");
+        Edge.due("the state after both", Nursery.state(x), Nursery.state(Edge.quiet()));
+        for (String text : new String[] {"", "x", "ink a+1;x", "order 0;"}) {
+            Edge.refusedRun(text, Nursery.ARGUMENT, Edge::full);
+        }
+        for (String text : new String[] {"pick 9", "recall a;recall b;merge 0>1;plant 0a@1;pick 0;pick 0"}) {
+            Edge.refusedRun(text, Nursery.UNSUPPORTED, Edge::full);
         }
     }
 
