@@ -356,12 +356,12 @@ final class Model {
 
     // ---- heaps
 
-    private int add(List<Pen> pens, Pen pen) {
+    int add(List<Pen> pens, Pen pen) {
         pens.add(pen);
         return siftUp(pens, pens.size() - 1);
     }
 
-    private void takeOut(List<Pen> pens, int index) {
+    void takeOut(List<Pen> pens, int index) {
         Pen last = pens.remove(pens.size() - 1);
         if (index == pens.size()) {
             return;
@@ -370,7 +370,7 @@ final class Model {
         siftDown(pens, siftUp(pens, index));
     }
 
-    private void order(List<Pen> pens) {
+    void order(List<Pen> pens) {
         for (int i = Math.floorDiv(pens.size(), 2) - 1; i >= 0; i--) {
             siftDown(pens, i);
         }
