@@ -31,11 +31,13 @@ public final class SentencesOthersTest {
     private static void picked() {
         Edge.promise(32, "Returns the number of pens.");
         PenNursery x = Edge.full();
-        for (int i = 1; i <= 20; i++) {
+        for (int i = 1; i <= 12; i++) {
             x.pick(i % 4);
             Edge.due("picked", x.picked(), i);
-            Edge.due("with those that are left", x.picked() + x.pens(), 24);
+            x.uproot(x.penAt(i % 4, 0));
+            Edge.due("not uprooted", x.picked(), i);
         }
+        Edge.due("pens", x.pens(), 0);
     }
 
     private static void exchanges() {
