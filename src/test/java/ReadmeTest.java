@@ -50,7 +50,7 @@ public final class ReadmeTest {
 
     private static String shell(Path directory, String commands) throws IOException, InterruptedException {
         Process process = new ProcessBuilder("sh", "-e", "-c", commands).directory(directory.toFile())
-                .redirectErrorStream(true).start();
+                .redirectError(ProcessBuilder.Redirect.INHERIT).start();
         process.getOutputStream().close();
         String output = new String(process.getInputStream().readAllBytes());
         Check.due("the end of " + commands, process.waitFor(), 0);
